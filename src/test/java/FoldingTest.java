@@ -12,6 +12,7 @@ public final class FoldingTest {
         spreads();
         matchesByBundle();
         loopsInOneStep();
+        mostSteps();
         odds();
         bests();
         sends();
@@ -121,6 +122,16 @@ public final class FoldingTest {
         }
         Check.due("a SEED with LINKS 0, 2, 4, 6 alone", isSeen);
         spread(x, 0, 8, 0, false, Long.bitCount(x.fold(0, 8, 0, false)), 4, 2, 1, 3, 15);
+    }
+
+    /** On a line a NODE is REACHED only from the one ahead of it, whatever else MATCHES. */
+    private static void mostSteps() {
+        FoldedWays x = Check.withNet("6,01,12,23,34,45");
+        for (int variant = 0; variant < 3; variant++) {
+            Check.due("STEPS from end to end", x.spread(0, 32, variant, false, 4), 6);
+            Check.due("all are REACHED", x.spread(0, 32, variant, false, 5), 63);
+            Check.due("STEPS back", x.spread(5, 1, variant, false, 4), 6);
+        }
     }
 
     private static void odds() {

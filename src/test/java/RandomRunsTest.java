@@ -91,7 +91,7 @@ public final class RandomRunsTest {
             }
         }
         if (random.nextInt(8) == 0) {
-            text.setCharAt(random.nextInt(text.length()), "0123456,/7"  .charAt(random.nextInt(10)));
+            text.setCharAt(random.nextInt(text.length()), "0123456,/7".charAt(random.nextInt(10)));
         }
         if (random.nextInt(8) == 0) {
             text.setLength(random.nextInt(text.length()));

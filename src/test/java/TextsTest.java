@@ -142,7 +142,9 @@ public final class TextsTest {
         x.set(1, 1);
         x.set(2, 9);
         x.send(0, 63, false);
-        Check.due("bind", x.bind(2, 0, 2), 1);
+        for (int place = 0; place < 4; place++) {
+            Check.due("bind", x.bind(place, 0, 2), 1);
+        }
         int[] counted = new int[12];
         for (int what = 0; what < 12; what++) {
             counted[what] = x.count(what);
@@ -153,7 +155,9 @@ public final class TextsTest {
         for (int what = 0; what < 12; what++) {
             Check.due("another net: count(" + what + ")", x.count(what), what < 8 ? now[what] : counted[what]);
         }
-        Check.due("its BUNDLES are gone", x.loosen(2), FoldedWays.STATE);
+        for (int place = 0; place < 4; place++) {
+            Check.due("its BUNDLES are gone", x.loosen(place), FoldedWays.STATE);
+        }
         Check.due("link(0, 0)", x.link(0, 0), 2);
         Check.due("link(1, 0)", x.link(1, 0), 0);
         Check.due("link(2, 0)", x.link(2, 0), FoldedWays.UNKNOWN);
