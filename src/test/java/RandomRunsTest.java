@@ -46,6 +46,7 @@ public final class RandomRunsTest {
         return below(1 << Math.max(2, model.count(0)));
     }
 
+    /** Some calls, and how many. */
     private int some() {
         int kind = random.nextInt(100);
         if (kind < 4 || model.count(0) == 0 && kind < 50) {
@@ -54,7 +55,7 @@ public final class RandomRunsTest {
         if (kind < 12) {
             loneLetters();
         } else if (kind < 22) {
-            settings();
+            return settings();
         } else if (kind < 40) {
             waysAndMarks();
         } else if (kind < 62) {
@@ -109,11 +110,12 @@ public final class RandomRunsTest {
         }
     }
 
-    private void settings() {
+    private int settings() {
         int what = below(3);
         int v = what == 0 ? 6 + below(20) * (1 + random.nextInt(2)) : what == 1 ? below(6) : random.nextInt();
         due("set(" + what + ", " + v + ")", x.set(what, v), model.set(what, v));
         due("count", x.count(3), model.count(3));
+        return 2;
     }
 
     private void waysAndMarks() {
