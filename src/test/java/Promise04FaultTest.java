@@ -30,6 +30,14 @@ public final class Promise04FaultTest {
     }
 
     @Holds("The place (from 0) of the first letter of THE PAGE with which, and those ahead of it, no NET begins")
+    static void twoThatCameAheadInEitherOrder() {
+        fault("3,01,01", 6);
+        fault("3,01,10", 6);
+        fault("3,12,01,21", 9);
+        fault("3,12,01,12", 9);
+    }
+
+    @Holds("The place (from 0) of the first letter of THE PAGE with which, and those ahead of it, no NET begins")
     static void whatComesBehindDoesNotMend() {
         fault("4,0", 3);
         fault("4,00", 3);

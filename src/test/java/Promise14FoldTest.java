@@ -22,6 +22,17 @@ public final class Promise14FoldTest {
     }
 
     @Holds("FOLD of the TREE, as bits.")
+    static void boundOrNot() {
+        FoldedWays x = Small.net();
+        x.bind(0, 0, 4);
+        long[][] want = {{66, 8}, {48, 16}, {2, 64}};
+        for (int variant = 0; variant < 3; variant++) {
+            Check.due("not bound in " + variant, x.fold(0, 4, variant, false), want[variant][0]);
+            Check.due("bound in " + variant, x.fold(0, 4, variant, true), want[variant][1]);
+        }
+    }
+
+    @Holds("FOLD of the TREE, as bits.")
     static void theGreatestBit() {
         FoldedWays x = Check.withNet("2,01", 40, 1, 29);
         Check.due("bit 39", x.fold(0, 2, 0, false), 1L << 39);

@@ -32,6 +32,14 @@ public final class Promise17SendTest {
     }
 
     @Holds("It is sent in its BEST VARIANT: how many PASSAGES are ASTRAY.")
+    static void astrayIsNeitherPassagesNorLoops() {
+        FoldedWays x = Ring.net();
+        Check.due("BEST", x.best(0, 8, false), Ring.BEST);
+        Check.due("send(0, 8)", x.send(0, 8, false), Ring.ASTRAY);
+        counted(x, 1, Ring.PASSAGES, Ring.ASTRAY, Ring.LOOPS);
+    }
+
+    @Holds("It is sent in its BEST VARIANT: how many PASSAGES are ASTRAY.")
     static void boundOrNot() {
         // LINKS 0 to 3 have 3 3 1 3, then 3 6 5 3, then 7 7 6 0; BUNDLE 0 has 1, then 1, then 3
         FoldedWays x = Small.withSeed(12);

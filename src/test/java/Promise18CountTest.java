@@ -90,17 +90,14 @@ public final class Promise18CountTest {
     }
 
     @Holds("9 PASSAGES of these, 10 ASTRAY, 11 LOOPS, ever.")
-    static void astrayAndLoopsAreCountedApart() {
-        FoldedWays x = Check.withNet("4,01,02,13,23", 8, 1, 111);
-        int variant = x.best(0, 8, false);
-        int passages = x.spread(0, 8, variant, false, 1);
-        int astray = x.spread(0, 8, variant, false, 2);
-        int loops = x.spread(0, 8, variant, false, 3);
-        x.send(0, 8, false);
-        x.send(0, 8, false);
-        Check.due("PASSAGES", x.count(9), 2 * passages);
-        Check.due("ASTRAY", x.count(10), 2 * astray);
-        Check.due("LOOPS", x.count(11), 2 * loops);
+    static void passagesAstrayAndLoopsAreCountedApart() {
+        FoldedWays x = Ring.net();
+        for (int often = 1; often <= 3; often++) {
+            x.send(0, 8, false);
+            Check.due("PASSAGES", x.count(9), often * Ring.PASSAGES);
+            Check.due("ASTRAY", x.count(10), often * Ring.ASTRAY);
+            Check.due("LOOPS", x.count(11), often * Ring.LOOPS);
+        }
     }
 
     @Holds("9 PASSAGES of these, 10 ASTRAY, 11 LOOPS, ever.")
