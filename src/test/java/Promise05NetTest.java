@@ -48,6 +48,28 @@ public final class Promise05NetTest {
     }
 
     @Holds("(another one is gone, with its BUNDLES")
+    static void noWayAndNoTreeOfItIsLeft() {
+        String[] texts = {"6,45", "6,01,23,54", "5,43", "2,10"};
+        for (String text : texts) {
+            FoldedWays x = rich();
+            Check.type(x, text);
+            x.net();
+            FoldedWays alone = Check.withNet(text);
+            for (int pair = 0; pair < 36; pair++) {
+                sameWay(x, alone, pair / 6, pair % 6);
+            }
+        }
+    }
+
+    private static void sameWay(FoldedWays x, FoldedWays alone, int from, int to) {
+        String at = "(" + from + ", " + to + ")";
+        Check.due("the TREE of " + at, x.tree(from, 1 << to), alone.tree(from, 1 << to));
+        for (int place = 0; place < 6; place++) {
+            Check.due("the WAY of " + at + ", " + place, x.way(from, to, place), alone.way(from, to, place));
+        }
+    }
+
+    @Holds("(another one is gone, with its BUNDLES")
     static void itsBundlesAreGone() {
         FoldedWays x = rich();
         Check.type(x, EIGHT);

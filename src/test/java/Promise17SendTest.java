@@ -33,10 +33,18 @@ public final class Promise17SendTest {
 
     @Holds("It is sent in its BEST VARIANT: how many PASSAGES are ASTRAY.")
     static void astrayIsNeitherPassagesNorLoops() {
-        FoldedWays x = Ring.net();
-        Check.due("BEST", x.best(0, 8, false), Ring.BEST);
-        Check.due("send(0, 8)", x.send(0, 8, false), Ring.ASTRAY);
-        counted(x, 1, Ring.PASSAGES, Ring.ASTRAY, Ring.LOOPS);
+        FoldedWays x = Ring.ofFourTwoAndOne();
+        Check.due("send(0, 8)", x.send(0, 8, false), 2);
+        counted(x, 1, 4, 2, 1);
+    }
+
+    @Holds("It is sent in its BEST VARIANT: how many PASSAGES are ASTRAY.")
+    static void astrayIsNotHowManyLinksMatchBesideTheTree() {
+        // LINKS 3 (2-0) and 5 (3-1) MATCH in VARIANT 1, but nothing comes to NODE 3
+        FoldedWays x = Ring.withSeed(17);
+        Check.due("LINKS that MATCH", x.spread(1, 4, 1, false, 8), 2);
+        Check.due("send(1, 4)", x.send(1, 4, false), 1);
+        counted(x, 1, 3, 1, 1);
     }
 
     @Holds("It is sent in its BEST VARIANT: how many PASSAGES are ASTRAY.")
@@ -48,6 +56,17 @@ public final class Promise17SendTest {
         counted(x, 1, 3, 1, 1);
         Check.due("send(0, 4, true): VARIANT 0", x.send(0, 4, true), 0);
         counted(x, 2, 5, 1, 1);
+    }
+
+    @Holds("It is sent in its BEST VARIANT: how many PASSAGES are ASTRAY.")
+    static void theBestVariantIsOfBoundOrNotAsIsSent() {
+        // ASTRAY if not bound 1 0 0, if bound 0 1 0: either VARIANT in place of the other one has one ASTRAY
+        FoldedWays x = Small.withSeed(31);
+        x.bind(0, 0, 4);
+        Check.due("send(0, 4, true): VARIANT 0", x.send(0, 4, true), 0);
+        counted(x, 1, 2, 0, 0);
+        Check.due("send(0, 4, false): VARIANT 1", x.send(0, 4, false), 0);
+        counted(x, 2, 4, 0, 0);
     }
 
     @Holds("It is sent in its BEST VARIANT: how many PASSAGES are ASTRAY.")

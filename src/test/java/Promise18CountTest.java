@@ -91,12 +91,12 @@ public final class Promise18CountTest {
 
     @Holds("9 PASSAGES of these, 10 ASTRAY, 11 LOOPS, ever.")
     static void passagesAstrayAndLoopsAreCountedApart() {
-        FoldedWays x = Ring.net();
+        FoldedWays x = Ring.ofFourTwoAndOne();
         for (int often = 1; often <= 3; often++) {
             x.send(0, 8, false);
-            Check.due("PASSAGES", x.count(9), often * Ring.PASSAGES);
-            Check.due("ASTRAY", x.count(10), often * Ring.ASTRAY);
-            Check.due("LOOPS", x.count(11), often * Ring.LOOPS);
+            Check.due("PASSAGES", x.count(9), 4 * often);
+            Check.due("ASTRAY", x.count(10), 2 * often);
+            Check.due("LOOPS", x.count(11), often);
         }
     }
 

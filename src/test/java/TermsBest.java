@@ -18,6 +18,32 @@ final class TermsBest {
         best(3844, 2, 1, 1, 1, 1, 0, 2);
     }
 
+    /** Of each VARIANT: ASTRAY, LOOPS, how many LINKS that are not in the TREE MATCH, how many bits. */
+    private static void bestInRing(int seed, int from, int nodes, int want, int... facts) {
+        FoldedWays x = Ring.withSeed(seed);
+        int[] what = {2, 3, 8, 0};
+        for (int i = 0; i < facts.length; i++) {
+            int variant = i / what.length;
+            Check.due("spread for " + what[i % what.length] + " in " + variant,
+                    x.spread(from, nodes, variant, false, what[i % what.length]), facts[i]);
+        }
+        Check.due("best(" + from + ", " + nodes + ") by SEED " + seed, x.best(from, nodes, false), want);
+    }
+
+    @Holds("BEST of a NODE and a set, bound or not: the VARIANT in which fewest PASSAGES are ASTRAY in SPREAD of FOLD of "
+            + "the TREE from that NODE")
+    static void fewestAstrayNotFewestLoopsOrLinksThatMatch() {
+        bestInRing(17, 1, 4, 1, 2, 1, 2, 2, 1, 1, 2, 2, 1, 0, 1, 2);
+    }
+
+    @Holds("of like ones that with fewest bits in FOLD")
+    static void likeOnesAreAlikeInAstrayAlone() {
+        // one is ASTRAY in each, but there is no LOOP
+        bestInRing(2, 1, 9, 1, 1, 0, 1, 2, 1, 0, 1, 1, 1, 0, 1, 2);
+        // none is ASTRAY in any, but a LINK MATCHES beside the TREE
+        bestInRing(4, 0, 8, 1, 0, 0, 1, 2, 0, 0, 1, 1, 0, 0, 0, 1);
+    }
+
     @Holds("BEST of a NODE and a set, bound or not: the VARIANT in which fewest PASSAGES are ASTRAY in SPREAD of FOLD of "
             + "the TREE from that NODE")
     static void boundOrNot() {
